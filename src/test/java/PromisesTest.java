@@ -193,6 +193,7 @@ public final class PromisesTest {
     dueFault("A1/7(B", 2, 3);
     // Ahead of a "/" that can't stand there itself: the number's place comes first.
     dueFault("7/2", 2, 0);
+    dueFault("6/2", 1, 1);
     dueFault("Ah 12/2", 2, 3);
     dueFault("2(2(2(2(2(A)))))", 3, 9);
     dueFault("2(2(2(2(2 (A)))))", 3, 10);
@@ -350,11 +351,14 @@ public final class PromisesTest {
     dueText(x, "B");
     x.undo();
     dueText(x, "B1/2B1/2");
+    due("from stays, of wanted()", x.material(0, 2), 1);
     due("add", x.add(1, 63, 127) >= 0, true);
     due("look(0)", x.look(0), 3);
     x.undo();
     dueText(x, "B1/2B1/2");
     due("look(3)", x.look(3), 1);
+    due("from stays, of all of these", x.material(0, 2), 1);
+    due("ground stays, of all of these", x.material(3, 3), 1);
   }
 
   private static void dueMatrix(ThinCoats x, int n, int mark, int... want) {
@@ -461,6 +465,10 @@ public final class PromisesTest {
     x = new ThinCoats();
     x.between(0, 0);
     due("all", x.through(1), Double.doubleToLongBits(1.0));
+    x = ofIndices("C1/3", 1, 1, 1, 4, 3, 2);
+    due("a half, light", x.light(-1, 1, 1), 2);
+    due("a half, share", x.share(1), Float.floatToIntBits(0.5f));
+    due("a half, through", x.through(1), Double.doubleToLongBits(0.5));
     bitsOfManyShares();
   }
 
@@ -525,6 +533,11 @@ public final class PromisesTest {
     due("through 0", x.marks(1), 0);
     x.between(0, 0);
     due("back 0", x.marks(0), 10);
+    // Three layers of A would throw nothing back, but are TOO FINE at MARK 4.
+    x = of("3(A1/2)");
+    x.between(0, 0);
+    due("back 0", x.marks(0), 7);
+    due("TOO FINE", x.marks(2), 8);
     due("what", x.marks(3), -1);
     due("what", x.marks(-1), -1);
 
@@ -550,6 +563,8 @@ public final class PromisesTest {
     due("below", x.below(1, 25, 121), 2);
     due("below", x.below(1, 24, 121), 1);
     due("below", x.below(1, 0, 1), 0);
+    due("below, at its edge", x.below(1, 40, 1000), 1);
+    due("below, at its edge", x.below(1, 39, 1000), 0);
     due("below", x.below(1, 1000, 1), 4);
     due("mark", x.below(0, 1, 1), -1);
     due("mark", x.below(5, 1, 1), -1);
