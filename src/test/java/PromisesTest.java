@@ -1,71 +1,7 @@
 /** Each promise of the document by itself: ordinary inputs, the edges it names, and wrong inputs. */
-public final class PromisesTest {
-  private static int wrong = 0;
-  private static String promise = "";
-
-  private static void due(String call, long got, long want) {
-    if (got != want) {
-      wrong++;
-      System.out.println("promise " + promise + ": " + call + " answered " + got + ", due is " + want);
-    }
-  }
-
-  private static void due(String call, boolean got, boolean want) {
-    due(call, got ? 1L : 0L, want ? 1L : 0L);
-  }
-
-  private static void tape(ThinCoats x, String text) {
-    x.end(0);
-    for (int i = 0; i < text.length(); i += 20) {
-      int[] n = new int[5];
-      for (int k = 0; k < 20; k++) {
-        int b = i + k < text.length() ? text.charAt(i + k) : ' ';
-        n[k / 4] = n[k / 4] << 8 | b;
-      }
-      x.feed(n[0], n[1], n[2], n[3], n[4]);
-    }
-    x.end(text.length());
-  }
-
-  private static ThinCoats of(String text) {
-    ThinCoats x = new ThinCoats();
-    tape(x, text);
-    if (x.stack() < 0) due("stack() of '" + text + "'", -1, 0);
-    return x;
-  }
-
-  private static String shown(ThinCoats x) {
-    int n = x.show();
-    StringBuilder text = new StringBuilder();
-    for (int i = 0; i < n; i++) text.append((char) x.out(i));
-    return text.toString();
-  }
-
-  private static void dueText(ThinCoats x, String want) {
-    String got = shown(x);
-    if (!got.equals(want)) {
-      wrong++;
-      System.out.println("promise " + promise + ": the stack is '" + got + "', due is '" + want + "'");
-    }
-  }
-
-  private static void dueFault(String text, int fault, int place) {
-    ThinCoats x = new ThinCoats();
-    tape(x, text);
-    due("stack() of '" + text + "'", x.stack(), -1);
-    due("fault(0) of '" + text + "'", x.fault(0), fault);
-    due("fault(1) of '" + text + "'", x.fault(1), place);
-  }
-
-  private static void dueStack(String text, String want) {
-    ThinCoats x = of(text);
-    due("fault(0) of '" + text + "'", x.fault(0), 0);
-    due("fault(1) of '" + text + "'", x.fault(1), -1);
-    dueText(x, want);
-  }
-
+public final class PromisesTest extends Checks {
   private static void newObject() {
-    promise = "1";
+    promise("1");
     ThinCoats x = new ThinCoats();
     due("look(0)", x.look(0), 0);
     due("look(3)", x.look(3), 0);
@@ -82,7 +18,7 @@ public final class PromisesTest {
   }
 
   private static void feedAndEnd() {
-    promise = "2";
+    promise("2");
     ThinCoats x = new ThinCoats();
     for (int i = 1; i <= 10; i++) due("feed", x.feed(0, 0, 0, 0, 0), 20L * i);
     due("feed beyond 200", x.feed(0, 0, 0, 0, 0), -1);
@@ -100,7 +36,7 @@ public final class PromisesTest {
     due("stack()", x.stack(), -1);
     due("fault(1)", x.fault(1), 1);
 
-    promise = "3";
+    promise("3");
     x = new ThinCoats();
     due("end(0)", x.end(0), true);
     due("end(1)", x.end(1), false);
@@ -115,7 +51,7 @@ public final class PromisesTest {
   }
 
   private static void stackAndFault() {
-    promise = "4";
+    promise("4");
     dueStack("", "");
     dueStack(" \n ", "");
     dueStack("2(A C1/2) Bh", "AC1/2AC1/2Bh");
@@ -138,7 +74,7 @@ public final class PromisesTest {
     dueText(x, "AB");
     due("stack() again", x.stack(), -1);
 
-    promise = "5";
+    promise("5");
     due("fault(0)", x.fault(0), 1);
     due("fault(1)", x.fault(1), 1);
     due("fault(2)", x.fault(2), -1);
@@ -213,7 +149,7 @@ public final class PromisesTest {
   }
 
   private static void materials() {
-    promise = "6";
+    promise("6");
     ThinCoats x = new ThinCoats();
     due("index that it is", x.index(1, 6, 4), false);
     due("index", x.index(1, 6, 3), true);
@@ -225,7 +161,7 @@ public final class PromisesTest {
     due("index", x.index(0, 9, 8), true);
     due("look(3), no change of the stack", x.look(3), 0);
 
-    promise = "7";
+    promise("7");
     x = new ThinCoats();
     due("as it is", x.between(0, 1), false);
     due("none such", x.between(6, 1), false);
@@ -237,7 +173,7 @@ public final class PromisesTest {
     due("ground", x.material(1, 3), 1);
     due("from", x.material(0, 2), 0);
 
-    promise = "8";
+    promise("8");
     x = of("ABAh A1/2 C");
     due("layers of A", x.material(0, 4), 3);
     due("layers of B", x.material(1, 4), 1);
@@ -251,7 +187,7 @@ public final class PromisesTest {
   }
 
   private static void layers() {
-    promise = "9";
+    promise("9");
     ThinCoats x = of("C2/4 Dh A0/3 B3/1");
     int[][] want = {
       {2, 1, 2, 4, 3, 11, 2, -24, 7},
@@ -268,7 +204,7 @@ public final class PromisesTest {
     due("another what", x.layer(0, 9), -10000);
     due("another what", x.layer(0, -1), -10000);
 
-    promise = "10";
+    promise("10");
     x = new ThinCoats();
     due("put", x.put(0, 1, 1, 1), 1);
     due("put", x.put(0, 0, 1, 0), 2);
@@ -281,7 +217,7 @@ public final class PromisesTest {
     for (int n = 5; n <= 24; n++) due("put", x.put(0, 0, 1, 1), n);
     due("the 25th", x.put(0, 0, 1, 1), -1);
 
-    promise = "11";
+    promise("11");
     x = of("ABC");
     due("cut", x.cut(3), -1);
     due("cut", x.cut(-1), -1);
@@ -293,7 +229,7 @@ public final class PromisesTest {
   }
 
   private static void turnAndUndo() {
-    promise = "12";
+    promise("12");
     ThinCoats x = of("AB1/2C");
     due("turn", x.turn(), true);
     dueText(x, "CB1/2A");
@@ -310,7 +246,7 @@ public final class PromisesTest {
     x = new ThinCoats();
     due("turn without layers", x.turn(), true);
 
-    promise = "13";
+    promise("13");
     x = new ThinCoats();
     due("undo of none", x.undo(), false);
     tape(x, "AB");
@@ -361,12 +297,8 @@ public final class PromisesTest {
     due("ground stays, of all of these", x.material(3, 3), 1);
   }
 
-  private static void dueMatrix(ThinCoats x, int n, int mark, int... want) {
-    for (int i = 0; i < 4; i++) due("matrix(" + n + ", " + mark + ", " + i + ")", x.matrix(n, mark, i), want[i]);
-  }
-
   private static void matrices() {
-    promise = "14";
+    promise("14");
     ThinCoats x = of("C1/2 B");
     dueMatrix(x, 0, 1, 1, 0, 0, 1);
     dueMatrix(x, 1, 1, 3, 2, 8, 3);
@@ -418,14 +350,8 @@ public final class PromisesTest {
     due("TOO FINE", x.light(-1, 1, 0), -1);
   }
 
-  private static ThinCoats ofIndices(String text, int... uv) {
-    ThinCoats x = of(text);
-    for (int i = 0; i < uv.length; i += 2) x.index(i / 2, uv[i], uv[i + 1]);
-    return x;
-  }
-
   private static void lights() {
-    promise = "15";
+    promise("15");
     ThinCoats x = of("C");
     // From 1 to 3 by 2 through a quarter of 2: 4 by 1.5 against 1: (5 by 11) squared.
     due("light", x.light(-1, 1, 0), 25);
@@ -446,7 +372,7 @@ public final class PromisesTest {
     due("can't be comes first", x.light(-1, 1, 4), -2);
     due("not of the first ones", x.light(3, 1, 0) >= 0, true);
 
-    promise = "16";
+    promise("16");
     x = of("C");
     due("share", x.share(1), Float.floatToIntBits(25f / 121f));
     due("mark", x.share(0), -2);
@@ -456,7 +382,7 @@ public final class PromisesTest {
     x.between(0, 0);
     due("nothing", x.share(1), 0);
 
-    promise = "17";
+    promise("17");
     x = of("C");
     due("through", x.through(1), Double.doubleToLongBits(96.0 / 121.0));
     due("mark", x.through(0), -2);
@@ -482,27 +408,17 @@ public final class PromisesTest {
         for (int i = 0; i < n; i++) x.put(0, i % 2 == 0 ? 5 : 0, 1, i % 7 == 3 ? 2 : 1);
         long below = x.light(-1, 1, 1);
         if (below < 0) continue;
-        promise = "16";
+        promise("16");
         due("share", x.share(1), Float.floatToIntBits((float) x.light(-1, 1, 0) / (float) below));
-        promise = "17";
+        promise("17");
         due("through", x.through(1),
             Double.doubleToLongBits((double) x.light(-1, 1, 2) / (double) x.light(-1, 1, 3)));
       }
     }
   }
 
-  /** At MARKS 1 and 3 it is TOO FINE from the fourth layer on; at 2 and 4 it isn't. */
-  private static ThinCoats fine() {
-    ThinCoats x = new ThinCoats();
-    x.index(0, 9, 8);
-    x.index(2, 8, 9);
-    tape(x, "2(AC)");
-    x.stack();
-    return x;
-  }
-
   private static void admittances() {
-    promise = "18";
+    promise("18");
     ThinCoats x = of("C");
     due("of a quarter", x.admittance(-1, 1, 0), 8);
     due("of a quarter", x.admittance(-1, 1, 1), 3);
@@ -527,7 +443,7 @@ public final class PromisesTest {
   }
 
   private static void atMarks() {
-    promise = "19";
+    promise("19");
     ThinCoats x = fine();
     due("TOO FINE", x.marks(2), 5);
     due("through 0", x.marks(1), 0);
@@ -541,7 +457,7 @@ public final class PromisesTest {
     due("what", x.marks(3), -1);
     due("what", x.marks(-1), -1);
 
-    promise = "20";
+    promise("20");
     x = of("C");
     due("least", x.extreme(0), 2);
     due("greatest", x.extreme(1), 1);
@@ -556,7 +472,7 @@ public final class PromisesTest {
     due("all TOO FINE", x.extreme(0), -1);
     due("all TOO FINE", x.extreme(1), -1);
 
-    promise = "21";
+    promise("21");
     x = of("CAC");
     // 1 by 25, 25 by 121, (5 by 29)^2 and so on.
     due("below", x.below(1, 1, 25), 1);
@@ -581,7 +497,7 @@ public final class PromisesTest {
     x.between(2, 4);
     double most = -1;
     int worst = -1;
-    promise = "23";
+    promise("23");
     for (int bits = 0; bits < 16; bits++) {
       long above = x.corner(2, 3, bits, 0);
       long below = x.corner(2, 3, bits, 1);
@@ -592,7 +508,7 @@ public final class PromisesTest {
         worst = bits;
       }
     }
-    promise = "22";
+    promise("22");
     due("worst", x.worst(2, 3, 0), worst);
     due("worst", x.worst(2, 3, 1), x.corner(2, 3, worst, 0));
     due("worst", x.worst(2, 3, 2), x.corner(2, 3, worst, 1));
@@ -608,7 +524,7 @@ public final class PromisesTest {
     due("9 layers", of("9(Ah)").corner(1, 2, 0, 0), -2);
     due("one is TOO FINE", of("8(B1/5)").worst(4, 11, 0), -1);
 
-    promise = "23";
+    promise("23");
     due("TOO FINE", of("8(B1/5)").corner(4, 11, 255, 0), -1);
     due("bits", x.corner(1, 2, 16, 0), -2);
     due("bits", x.corner(1, 2, -1, 0), -2);
@@ -627,7 +543,7 @@ public final class PromisesTest {
   }
 
   private static void tenders() {
-    promise = "24";
+    promise("24");
     // A is as where light comes from: it never matters. C grows by its greater slip.
     due("tender", of("A C1/2").tender(1, 2), 1);
     due("none without layers", new ThinCoats().tender(1, 2), -1);
@@ -643,15 +559,8 @@ public final class PromisesTest {
     due("of more than 8", of("9(Ah) C1/2").tender(1, 2), 9);
   }
 
-  private static ThinCoats toNineByFour() {
-    ThinCoats x = new ThinCoats();
-    x.index(3, 9, 4);
-    x.between(0, 3);
-    return x;
-  }
-
   private static void wants() {
-    promise = "25";
+    promise("25");
     ThinCoats x = toNineByFour();
     due("wanted", x.wanted(5, 63, 127, 3), 1);
     dueText(x, "B");
@@ -682,7 +591,7 @@ public final class PromisesTest {
     x = toNineByFour();
     due("ways", x.ways(1, 0b110, 1, 3), 0);
 
-    promise = "26";
+    promise("26");
     x = toNineByFour();
     due("ways", x.ways(1, 63, 1, 1), 1);
     due("ways", x.ways(1, 1, 127, 1), 0);
@@ -700,7 +609,7 @@ public final class PromisesTest {
   }
 
   private static void tunes() {
-    promise = "27";
+    promise("27");
     ThinCoats x = toNineByFour();
     x.put(0, 1, 1, 0);
     due("tune", x.tune(0, 1), 0);
@@ -732,7 +641,7 @@ public final class PromisesTest {
   }
 
   private static void adds() {
-    promise = "28";
+    promise("28");
     ThinCoats x = toNineByFour();
     due("add", x.add(5, 63, 127), 0);
     dueText(x, "B");
@@ -758,7 +667,7 @@ public final class PromisesTest {
   }
 
   private static void merges() {
-    promise = "29";
+    promise("29");
     ThinCoats x = of("B1/2 B1/3 C Ch Dh Dh A B2/1 B");
     due("unlike", x.merge(1), -1);
     due("1 by 2 and 1 by 3", x.merge(0), 8);
@@ -787,7 +696,7 @@ public final class PromisesTest {
   }
 
   private static void shows() {
-    promise = "30";
+    promise("30");
     due("period", of("3(AB1/2)").period(0), 2);
     due("period", of("3(AB1/2)").period(1), 3);
     due("period", of("ABA").period(0), 3);
@@ -801,7 +710,7 @@ public final class PromisesTest {
     due("what", of("A").period(2), -1);
     due("what", of("A").period(-1), -1);
 
-    promise = "31";
+    promise("31");
     ThinCoats x = of("3(8(F5/6))");
     due("show", x.show(), 96);
     due("out", x.out(95), '6');
@@ -809,7 +718,7 @@ public final class PromisesTest {
     x = of("A 1/1 Bh C0/4 2(D3/2)");
     due("show", x.show(), 15);
 
-    promise = "32";
+    promise("32");
     String want = "ABhC0/1D3/2D3/2";
     for (int i = 0; i < want.length(); i++) due("out(" + i + ")", x.out(i), want.charAt(i));
     x.cut(0);
@@ -822,7 +731,7 @@ public final class PromisesTest {
   }
 
   private static void spares() {
-    promise = "33";
+    promise("33");
     // A in front is as where light comes from, B behind as the ground, a half counts for nothing at MARK 1.
     ThinCoats x = of("A1/2 C1/2 Fh B");
     due("spare", x.spare(1), 0b1101);
@@ -842,7 +751,7 @@ public final class PromisesTest {
   }
 
   private static void looks() {
-    promise = "34";
+    promise("34");
     ThinCoats x = of("A Bh F A1/2 Bh");
     tape(x, "AB");
     int[] want = {5, 0b100011, 0, 1, 2, 2, 2};
@@ -876,7 +785,6 @@ public final class PromisesTest {
     shows();
     spares();
     looks();
-    System.out.println(wrong == 0 ? "all promises hold" : wrong + " answers are not as due");
-    if (wrong != 0) System.exit(1);
+    finish("all promises hold");
   }
 }
