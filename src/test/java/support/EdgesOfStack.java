@@ -24,14 +24,13 @@ final class EdgesOfStack extends Checks {
 
   private static void index() {
     sentence("Terms", "each with an INDEX u by v (1 .. 9 each; in lowest terms as it counts)", () -> {
-      ThinCoats x = new ThinCoats();
       for (int u = 1; u <= 9; u++) {
         for (int v = 1; v <= 9; v++) {
+          ThinCoats x = new ThinCoats();
           x.index(4, u, v);
           due(u + " by " + v, (long) x.material(4, 0) * v, (long) x.material(4, 1) * u);
           for (int d = 2; d <= 9; d++) due("lowest", x.material(4, 0) % d == 0 && x.material(4, 1) % d == 0, false);
         }
-        x.index(4, 1, 1);
       }
       // As it counts: a layer of 6 by 4 is one of 3 by 2.
       dueMatrix(ofIndices("C1/2", 1, 1, 3, 2, 6, 4), 1, 1, 9, 8, 18, 9);
